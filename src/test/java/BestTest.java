@@ -129,6 +129,9 @@ public final class BestTest {
         Due.due("swap(1, 2)", x.swap(1, 2), -1);
         Due.due("swap(1, -1)", x.swap(1, -1), -1);
         Due.same("swap", Due.state(x), before);
+        x.hours(1);
+        Due.due("swap(1, 0), the plain one has it", x.swap(1, 0), -4);
+        Due.due("swap(1, 1), the plain one has it", x.swap(1, 1), -4);
         BarrowGrief y = Due.told("stout 20 99;plain 8 99;barrow 30 8;rota 0 0 0 1 1;");
         Due.due("swap(1, 0) of 5", y.swap(1, 0), 3);
         y.hours(1);

@@ -188,6 +188,7 @@ public final class ChangeHoursTest {
         Due.due("under(24)", x.under(24), 1);
         Due.due("under(22)", x.under(22), 3);
         Due.due("under(999)", x.under(999), 0);
+        Due.due("under(0) of nobody", new BarrowGrief().under(0), 0);
         Due.due("under(1000)", x.under(1000), -1);
         Due.due("under(-1)", x.under(-1), -1);
         Due.due("light(2)", x.light(2), 0);

@@ -5,6 +5,7 @@ public final class ImagesSheetsTest {
     public static void main(String[] args) {
         images();
         imagesHoldAll();
+        imagesHoldWhatWasSeen();
         sheetsAreMade();
         cellsAreLaid();
         sheetsAreRead();
@@ -61,6 +62,18 @@ public final class ImagesSheetsTest {
         x.alter(0, 2, 1);
         x.back(1);
         Due.same("back(1), the image is its own", Due.state(x), before);
+    }
+
+    private static void imagesHoldWhatWasSeen() {
+        BarrowGrief x = Due.told(TWO);
+        x.see(1, 0, 5);
+        x.keep(0);
+        Due.due("kinds(0)", x.kinds(0), 1);
+        x.forget(0);
+        x.see(0, 1, 6);
+        Due.due("kinds(0) as seen later", x.kinds(0), 0);
+        x.back(0);
+        Due.due("kinds(0) behind back(0)", x.kinds(0), 1);
     }
 
     private static void sheetsAreMade() {

@@ -192,6 +192,11 @@ public final class LuckSeenTest {
         Due.due("drift(1, 61, 0)", x.drift(1, 61, 0), -1);
         Due.due("drift(1, 1, 2)", x.drift(1, 1, 2), -1);
         Due.due("drift(1, 1, -1)", x.drift(1, 1, -1), -1);
+        // Then 10113, 17515, 31051, 5627: ONES 3, 3, 3, 0, 1, 2 heal 1, 1, 1, 2, 3, 3; 6 more for ONE 4, 2 for ONE 1.
+        BarrowGrief y = Due.told("plain 9 99;plain 9 99;plain 9 99;plain 9 99;plain 9 99;rota 4;");
+        Due.due("drift(1, 6, 0) of 5", y.drift(1, 6, 0), 45 + 8 - 11);
+        y.alter(4, 1, 99);
+        Due.due("drift(1, 6, 0) of 5, 6 are lost", y.drift(1, 6, 0), 135 + 2 - 11);
         BarrowGrief nobody = new BarrowGrief();
         Due.due("drift(1, 1, 0) of nobody", nobody.drift(1, 1, 0), -2);
         Due.due("drift(1, 61, 0) of nobody", nobody.drift(1, 61, 0), -1);

@@ -9,6 +9,7 @@ public final class TextTest {
         textsThatAreTaken();
         textsWithFaults();
         faultsMetFirst();
+        textsAtTheEndOfTheTape();
         aTextTellsAll();
         aFaultChangesNothing();
         rules();
@@ -111,6 +112,11 @@ public final class TextTest {
         faulty("plain <", 1, 6);
         faulty("plainer 1 1;", 2, 0);
         faulty("plai 1 1;", 2, 0);
+        faulty("xlain 1 1;", 2, 0);
+        faulty("plainz 1 1;", 2, 0);
+        faulty("plaina 1 1;", 2, 0);
+        faulty("a", 2, 0);
+        faulty("z", 2, 0);
         faulty("plain1 1;barrows", 2, 9);
         faulty("  rot", 2, 2);
         faulty("1 1;", 2, 0);
@@ -156,15 +162,40 @@ public final class TextTest {
         faulty("rota 0 0 0 0 0 0 0 0 x", 2, 21);
     }
 
+    private static void textsAtTheEndOfTheTape() {
+        faulty("a".repeat(160), 2, 0);
+        faulty("7".repeat(160), 1, 0);
+        faulty("rota" + " ".repeat(156), 2, 160);
+        faulty(" ".repeat(156) + "rota", 2, 160);
+        faulty(" ".repeat(152) + "rota 0 ;", 6, 160);
+        taken(" ".repeat(150) + "plain 1 1;", 1, "0:1/1 load 0 of 30 hour 0 rota");
+        // What was cut off, or told earlier, is not read behind the end.
+        BarrowGrief x = new BarrowGrief();
+        Due.feed(x, "plainx");
+        x.end(5);
+        Due.due("text() of \"plain\"", x.text(), -15);
+        Due.feed(x, "plain 123");
+        x.end(8);
+        Due.due("text() of \"plain 12\"", x.text(), -18);
+        Due.due("fault() of \"plain 12\"", x.fault(), 2);
+        Due.feed(x, "plain 1 1;");
+        x.text();
+        Due.feed(x, "plain 1 1");
+        Due.due("text() of \"plain 1 1\"", x.text(), -19);
+    }
+
     private static void aTextTellsAll() {
         BarrowGrief x = Due.told("plain 8 5;barrow 12 7;rota 0 0;");
         x.hours(3);
         x.see(0, 0, 1);
+        x.keep(0);
         x.keep(1);
         x.sheet(0, 1, 3);
+        x.runs(9, 0);
         Due.feed(x, "widow 3 4;");
         Due.due("text()", x.text(), 1);
         Due.same("text()", Due.state(x), "3:3/4 load 0 of 30 hour 0 rota seen 0 images 0 tape 0 sheet 3 torn 0");
+        Due.due("back(0) behind text()", x.back(0), -2);
         Due.due("back(1) behind text()", x.back(1), -2);
     }
 
