@@ -37,6 +37,7 @@ public final class BestTest {
         Due.due("order(10) of none", x.order(10), -4);
         Due.due("order(0) of nobody", new BarrowGrief().order(0), 0);
         bestOrderIsNotTheFirst();
+        bestOrderIsTheLast();
     }
 
     /**
@@ -57,6 +58,37 @@ public final class BestTest {
         // From HOUR 1 on the last of five has 5 hours of 24, and the first has 4.
         Due.due("order(0) from hour 1", x.order(0), 12);
         Due.due("order(14) from hour 1", x.order(14), 1);
+    }
+
+    /** Each of the 120 orders is laid down and run by itself: that of 4 3 2 1 0 is the only best. */
+    private static void bestOrderIsTheLast() {
+        BarrowGrief x = Due.told("stout 4 17;plain 20 6;child 25 4;widow 9 6;widow 34 29;rota 0 1 2 3 4;");
+        int least = x.order(0);
+        for (int i = 0; i < 5; i++) {
+            Due.due("order(" + (10 + i) + ")", x.order(10 + i), 4 - i);
+        }
+        int tried = 0;
+        int asGood = 0;
+        for (int code = 0; code < 3125; code++) {
+            int[] row = {code / 625, code / 125 % 5, code / 25 % 5, code / 5 % 5, code % 5};
+            int who = 0;
+            x.cut(0);
+            for (int p : row) {
+                x.rota(p);
+                who |= 1 << p;
+            }
+            if (who == 31) {
+                tried++;
+                asGood += x.runs(24, 0) <= least ? 1 : 0;
+            }
+        }
+        Due.due("orders", tried, 120);
+        Due.due("orders that are as good", asGood, 1);
+        x.cut(0);
+        for (int p = 4; p >= 0; p--) {
+            x.rota(p);
+        }
+        Due.due("runs(24, 0) of 4 3 2 1 0", x.runs(24, 0), least);
     }
 
     private static void extras() {
