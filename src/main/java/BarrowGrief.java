@@ -535,12 +535,12 @@ public final class BarrowGrief {
             return BAD;
         }
         Sheet s = sheets[k];
-        // As on the machine: the row is cast as it is taken, nothing is found to be nothing at a cell.
-        int found = s.isOther(lane) ? FAULT_CAST : 0;
+        int found = 0;
         int whole = 0;
         while (found == 0 && whole < n) {
             int at = f + 2 * whole;
-            found = s.faultAt(at, at + 1);
+            // The row is taken anew each time: where nothing is read, no lane can be another.
+            found = s.isOther(lane) ? FAULT_CAST : s.faultAt(at, at + 1);
             if (found == 0) {
                 if (!now.mayAlter(s.cells[at], 1, s.cells[at + 1])) {
                     return -20 - whole;

@@ -11,6 +11,7 @@ public final class ImagesSheetsTest {
         sheetsAreRead();
         lanesCutValues();
         faultsOfTheMachine();
+        noTimes();
         refusedReads();
         counts();
         Due.finish();
@@ -196,11 +197,32 @@ public final class ImagesSheetsTest {
         Due.due("read of no cells", x.read(0, 1, 0, 1), 0);
         Due.due("torn()", x.torn(), 2);
         griefs("all that", x, 11, 22);
-        // As the machine goes: a row is cast when it is taken, and nothing is found at a cell alone.
-        Due.due("read of none as bytes", x.read(0, 0, 0, 0), 0);
-        Due.due("torn()", x.torn(), 3);
-        Due.due("read of none of nothing", x.read(1, 0, 0, 0), 0);
-        Due.due("torn()", x.torn(), 0);
+    }
+
+    /** What is read no time at all is not refused, whatever the lane, the sheet and the cell. */
+    private static void noTimes() {
+        BarrowGrief x = Due.told(TWO);
+        for (int has = 0; has < 3; has++) {
+            Due.due("sheet", x.sheet(has, has, has * 20), 1);
+        }
+        for (int k = 0; k < 4; k++) {
+            for (int lane = 0; lane < 3; lane++) {
+                for (int f : new int[] {0, -1, 40, Integer.MAX_VALUE}) {
+                    String call = "read(" + k + ", " + lane + ", " + f + ", 0)";
+                    Due.due("read of nothing", x.read(3, 0, 0, 1), 0);
+                    Due.due("torn() ahead of " + call, x.torn(), 1);
+                    Due.due(call, x.read(k, lane, f, 0), 0);
+                    Due.due("torn() behind " + call, x.torn(), 0);
+                }
+            }
+        }
+        griefs("reads of none", x, 9, 5);
+        for (int k = 0; k < 3; k++) {
+            for (int lane = 0; lane < 3; lane++) {
+                Due.due("read once", x.read(k, lane, 40, 1), 0);
+                Due.due("torn() of SHEET " + k + " as of lane " + lane, x.torn(), lane == k ? 2 : 3);
+            }
+        }
     }
 
     private static void refusedReads() {

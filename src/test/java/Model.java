@@ -777,10 +777,10 @@ final class Model {
         int came = 0;
         int found = 0;
         try {
-            byte[] bytes = lane == 0 ? (byte[]) sheets[k] : null;
-            short[] shorts = lane == 1 ? (short[]) sheets[k] : null;
-            int[] ints = lane == 2 ? (int[]) sheets[k] : null;
             for (int i = 0; i < n; i++) {
+                byte[] bytes = lane == 0 ? (byte[]) sheets[k] : null;
+                short[] shorts = lane == 1 ? (short[]) sheets[k] : null;
+                int[] ints = lane == 2 ? (int[]) sheets[k] : null;
                 int at = f + 2 * i;
                 int p = lane == 0 ? bytes[at] : lane == 1 ? shorts[at] : ints[at];
                 int g = lane == 0 ? bytes[at + 1] : lane == 1 ? shorts[at + 1] : ints[at + 1];
