@@ -881,7 +881,7 @@ public final class BarrowGrief {
             int to = p;
             for (int i = 0; i < much; i++) {
                 to = to + 1 < people ? to + 1 : 0;
-                grieve(to, 1);
+                grief[to] = Math.min(grief[to] + 1, HIGHEST);
             }
         }
 

@@ -7,8 +7,14 @@ import java.util.Random;
 
 /** Runs of calls by fixed seeds, on the class and on Model: every answer must be the same, and none may throw. */
 public final class ModelTest {
-    private static final int RUNS = 400;
-    private static final int CALLS = 200;
+    private static final int RUNS = 300;
+
+    /** What an object answers behind its 512th call is free. */
+    private static final int CALLS = 512;
+
+    /** As many as come at once but for a text: a sheet of 40 cells is made, laid, read, and looked at. */
+    private static final int AT_ONCE = 44;
+
     private static final int[] EDGES = {Integer.MIN_VALUE, Integer.MIN_VALUE + 1, -100, -2, -1, 0, 1, 2, 3, 4, 5, 6, 8, 9, 10,
         14, 15, 24, 25, 30, 31, 40, 41, 60, 61, 99, 100, 127, 128, 999, 1000, 65536, Integer.MAX_VALUE - 1, Integer.MAX_VALUE};
     private static final String[] WORDS = {"plain", "stout", "child", "widow", "barrow", "rota", "plai", "x", "A", "-"};
@@ -17,6 +23,7 @@ public final class ModelTest {
     private final BarrowGrief got = new BarrowGrief();
     private final Model due = new Model();
     private final List<String> calls = new ArrayList<>();
+    private int used;
 
     private ModelTest(long seed) {
         random = new Random(seed);
@@ -31,7 +38,7 @@ public final class ModelTest {
                 run.calls.forEach(System.out::println);
                 System.exit(1);
             }
-            asked += run.calls.size();
+            asked += run.used;
         }
         System.out.println(asked + " answers are as the model's");
     }
@@ -53,7 +60,7 @@ public final class ModelTest {
         if (!tell(random.nextInt(8) == 0)) {
             return false;
         }
-        while (calls.size() < CALLS) {
+        while (used + AT_ONCE <= CALLS) {
             int which = random.nextInt(60);
             boolean same;
             if (which == 0) {
@@ -100,6 +107,7 @@ public final class ModelTest {
             values[i] = a[i];
             told.append(i == 0 ? "" : ", ").append(a[i]);
         }
+        used++;
         long want = ((Number) Model.class.getDeclaredMethod(name, types).invoke(due, values)).longValue();
         try {
             long answer = ((Number) BarrowGrief.class.getMethod(name, types).invoke(got, values)).longValue();
@@ -116,10 +124,14 @@ public final class ModelTest {
 
     private boolean tell(boolean wildly) throws ReflectiveOperationException {
         String text = wildly ? wildText() : text();
+        if (used + text.length() + 3 > CALLS) {
+            return true;
+        }
         if (!call("end", 0)) {
             return false;
         }
         for (int i = 0; i < text.length(); i++) {
+            used++;
             if (got.feed(text.charAt(i)) != due.feed(text.charAt(i))) {
                 return false;
             }
@@ -181,6 +193,7 @@ public final class ModelTest {
 
     /** Sees what would come of another kind, so that something is left to be told. */
     private boolean seeWhatComes() throws ReflectiveOperationException {
+        used += 2;
         int people = got.rule(0);
         if (people == 0) {
             return true;
