@@ -1,3 +1,6 @@
+import java.util.Arrays;
+import java.util.Random;
+
 /** Promises 19 to 25 at their edges: what is best. */
 public final class BestEdgesTest {
     private static final int BAD = BarrowGrief.BAD, STATE = BarrowGrief.STATE, FULL = BarrowGrief.FULL,
@@ -14,6 +17,7 @@ public final class BestEdgesTest {
         orderOfTooMany();
         orderBehind24();
         orderOfSeveral();
+        orderOfAll();
         extraBounds();
         extraWhenFull();
         extraOfNobody();
@@ -117,6 +121,70 @@ public final class BestEdgesTest {
         int[] first = {1, 1, 1, 3, 3};
         for (int i = 0; i < 5; i++) {
             Edge.due(first[i], x, "order", 10 + i);
+        }
+    }
+
+    /** Towns by a fixed seed: each order of the rota is laid down by itself, the first by its row first. */
+    private static void orderOfAll() {
+        Edge.promise(19, "ALL is least behind 24 HOURS, of several the first by its row (as numbers): of all orders");
+        Random random = new Random(19);
+        for (int town = 0; town < 60; town++) {
+            StringBuilder people = new StringBuilder();
+            int many = 2 + random.nextInt(4);
+            for (int p = 0; p < many; p++) {
+                people.append(new String[] {"plain ", "stout ", "child ", "widow "}[random.nextInt(4)]);
+                people.append(random.nextInt(100)).append(' ').append(1 + random.nextInt(20)).append(';');
+            }
+            people.append("barrow ").append(5 + random.nextInt(60)).append(' ').append(random.nextInt(30)).append(";rota");
+            int[] rota = new int[2 + random.nextInt(4)];
+            for (int i = 0; i < rota.length; i++) {
+                rota[i] = town % 2 == 0 ? i % many : random.nextInt(many);
+            }
+            bestOfAll(people.toString(), rota);
+        }
+        Edge.promise(19, "of all orders: the 120th of five ONES is the only best");
+        bestOfAll("stout 4 17;plain 20 6;child 25 4;widow 9 6;widow 34 29;rota", new int[] {0, 1, 2, 3, 4});
+    }
+
+    private static String row(int[] rota) {
+        StringBuilder s = new StringBuilder();
+        for (int p : rota) {
+            s.append(' ').append(p);
+        }
+        return s.append(';').toString();
+    }
+
+    private static void bestOfAll(String people, int[] rota) {
+        int[] sorted = rota.clone();
+        Arrays.sort(sorted);
+        int[] best = null;
+        long least = MAX;
+        int codes = (int) Math.pow(5, rota.length);
+        for (int code = 0; code < codes; code++) {
+            int[] other = new int[rota.length];
+            int rest = code;
+            for (int i = rota.length - 1; i >= 0; i--) {
+                other[i] = rest % 5;
+                rest /= 5;
+            }
+            int[] same = other.clone();
+            Arrays.sort(same);
+            if (Arrays.equals(same, sorted)) {
+                long all = Edge.call(Edge.told(people + row(other)), "runs", 24, 0);
+                best = all < least ? other : best;
+                least = Math.min(all, least);
+            }
+        }
+        // Another order of more TURNS is asked ahead, of which nothing may be left.
+        BarrowGrief x = Edge.told(people + " 1 1 1 1 1;");
+        Edge.call(x, "order", 0);
+        Edge.call(x, "cut", 0);
+        for (int p : rota) {
+            Edge.call(x, "rota", p);
+        }
+        Edge.due(least, x, "order", 0);
+        for (int i = 0; i < 5; i++) {
+            Edge.due(i < rota.length ? best[i] : NONE, x, "order", 10 + i);
         }
     }
 

@@ -15,6 +15,7 @@ public final class ImagesSheetsEdgesTest {
         keepTakesThePlace();
         backs();
         backIsAllAsItWas();
+        backIsAllThatWasSeen();
         backLeavesTheRest();
         imagesAndTexts();
         sheetBounds();
@@ -159,6 +160,28 @@ public final class ImagesSheetsEdgesTest {
         BarrowGrief x = Edge.full();
         Edge.call(x, "keep", 0);
         return x;
+    }
+
+    private static void backIsAllThatWasSeen() {
+        Edge.promise(35, "All is as IMAGE k: what was SEEN, of 0 to 6");
+        for (int many = 0; many <= 6; many++) {
+            BarrowGrief x = Edge.told("plain 9 9;child 5 5;rota 0 1;");
+            // The last alone tells another GRIEF of another ONE, behind another HOUR.
+            for (int i = 1; i < many; i++) {
+                Edge.call(x, "see", 0, 0, 9);
+            }
+            if (many > 0) {
+                Edge.call(x, "see", 1, 1, 7);
+            }
+            Edge.call(x, "keep", 0);
+            Edge.call(x, "forget", 0);
+            for (int i = 0; i < 6; i++) {
+                Edge.call(x, "see", 2, 0, 3);
+            }
+            Edge.due(0, x, "back", 0);
+            Edge.due(many, x, "count", 0);
+            Edge.due(many == 0 ? MAX : 1 << 7, x, "griefs", 1);
+        }
     }
 
     private static void backLeavesTheRest() {

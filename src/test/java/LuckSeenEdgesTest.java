@@ -367,6 +367,14 @@ public final class LuckSeenEdgesTest {
         asks(x, 0, 10, 1);
         Edge.call(x, "cut", 0);
         asks(x, 0, NONE, NONE);
+        Edge.promise(32, "fewer than now: not when one KIND is left, whichever it is");
+        int[] griefs = {5, 1, 7, 4};
+        for (int k = 0; k < 4; k++) {
+            BarrowGrief one = Edge.told("plain 9 99;child 9 99;barrow 99 0;rota 0;");
+            Edge.call(one, "see", 1, 0, griefs[k]);
+            Edge.due(1 << k, one, "kinds", 0);
+            asks(one, 0, NONE, NONE);
+        }
         Edge.promise(32, "the first that fits: BAD, NONE");
         Edge.due(BAD, x, "ask", 0, 2);
         Edge.due(BAD, x, "ask", 2, 0);
